@@ -913,7 +913,7 @@ public final class RoundFlows {
     }
   }
 
-  /** What is summed over all sets of roads: both polynomials, and sets without a ROUND by pieces. */
+  /** What is summed over all sets of roads: both polynomials, and forests by their pieces. */
   private static final class Survey {
     private static final int LABEL_BITS = 3;
     private static final int LABEL_MASK = 7;
@@ -939,7 +939,7 @@ public final class RoundFlows {
       }
     }
 
-    /** The labels of all posts (of which piece each is) stand in one int, so that none is undone. */
+    /** Posts' labels (of which piece each is) stand in one int, so that nothing is to be undone. */
     private void choose(Net net, int road, int labels, int pieces, int chosen) {
       if (road >= net.roads) {
         enter(net, pieces, chosen);
