@@ -302,13 +302,13 @@ public final class RoundFlows {
     if (forest.bridgeSet() != 0) {
       return tell(NONE);
     }
-    // A net without a bridge always has a nowhere of size 6 (Seymour), so 6 needs no search.
-    for (int k = 2; k < 6; k++) {
+    // A net without a bridge always has one of size 6 (Seymour), so that 6 needs no search.
+    for (int k = 2; k < MOST_FOUND_SIZE; k++) {
       if (nowheres.exists(net, k)) {
         return k;
       }
     }
-    return 6;
+    return MOST_FOUND_SIZE;
   }
 
   public int rounds(int i, boolean number) {
@@ -397,7 +397,7 @@ public final class RoundFlows {
     // Two sets must both be all roads. Else three do: two even sets that together have all roads,
     // and the roads that are in just one of them; the least net without a bridge that lacks two
     // such sets is Petersen's, of genus 6 and 15 roads.
-    return net.oddPosts(net.allRoads()) == 0 ? 2 : 3;
+    return forest.evenSet((1 << forest.genus) - 1) == net.allRoads() ? 2 : 3;
   }
 
   public int walked(boolean set) {
@@ -405,12 +405,12 @@ public final class RoundFlows {
     int all = net.allRoads();
     int best = all;
     int least = net.lengthOf(all);
-    // What must be walked twice has odd ends just where all roads together have them: it is all
-    // roads but for an even set.
+    // What is walked twice has odd ends just where all roads together have them: it is all roads
+    // but for an even set. As even sets go up, it goes down: of equal sums the last one is due.
     for (int i = 1; i < 1 << forest.genus; i++) {
       int other = all ^ forest.evenSet(i);
       int sum = net.lengthOf(other);
-      if (sum < least || (sum == least && other < best)) {
+      if (sum <= least) {
         least = sum;
         best = other;
       }
@@ -750,17 +750,6 @@ public final class RoundFlows {
         return isWhole() ? SIZED_KIND : FLOW_KIND;
       }
       return modulus == 2 ? BITS_KIND : RESTS_KIND;
-    }
-
-    /** The set of posts at which a set of roads has an odd number of ends. */
-    int oddPosts(int roadSet) {
-      int odd = 0;
-      for (int i = 0; i < roads; i++) {
-        if ((roadSet >> i & 1) != 0) {
-          odd ^= 1 << starts[i] ^ 1 << ends[i];
-        }
-      }
-      return odd;
     }
 
     int lengthOf(int roadSet) {
