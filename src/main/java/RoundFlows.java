@@ -1,6 +1,7 @@
 /**
  * A bench for round flows: a small net of posts and pointed roads, a flow on it, and what can be
- * counted, found and parted there. Every answer below -999999 of an act that can fail is a finding.
+ * counted, found and parted there. What cannot be done is told by one of eight findings; only
+ * worth() may have an answer of its own that is as low.
  */
 public final class RoundFlows {
   private static final int BEYOND = -1000001;

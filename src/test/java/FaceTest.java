@@ -135,6 +135,27 @@ public final class FaceTest {
     due(methods > FACE.length, "methods were not seen: " + methods);
   }
 
+  /** The document says what stands ahead of which calls in the interface. */
+  private static void chapters() throws IOException {
+    String source = Files.readString(Path.of("src/main/java/RoundFlows.java"));
+    String document = Files.readString(Path.of("../shared/DOC.md"));
+    Matcher told = Pattern.compile("Ahead of the calls (.*) the interface says: (---- .*)").matcher(document);
+    int chapters = 0;
+    while (told.find()) {
+      chapters++;
+      int from = source.indexOf("\n  // " + told.group(2) + "\n");
+      int to = source.indexOf("\n  // ---- ", from + 1);
+      String part = from < 0 ? "" : source.substring(from, to < 0 ? source.length() : to);
+      List<String> names = new ArrayList<>();
+      Matcher head = Pattern.compile("\n  public \\w+ (\\w+)\\(").matcher(part);
+      while (head.find()) {
+        names.add("`" + head.group(1) + "`");
+      }
+      due(String.join(", ", names).equals(told.group(1)), told.group(2) + " is ahead of " + names);
+    }
+    due(chapters == 7, "chapters of the interface: " + chapters);
+  }
+
   /** All calls of a run share one room, so that no call may make anything. */
   private static void room() {
     com.sun.management.ThreadMXBean bean =
@@ -166,6 +187,7 @@ public final class FaceTest {
   public static void main(String[] args) throws IOException {
     face();
     text();
+    chapters();
     room();
     System.out.println(wrong == 0 ? "the face and the rules are kept" : wrong + " rules are not kept");
     if (wrong != 0) {
