@@ -16,17 +16,6 @@ import java.util.regex.Pattern;
 
 /** The public face, the rules of LANGUAGE.md that can be read off, and the room that calls take. */
 public final class FaceTest {
-  private static final String[] FACE = {
-    "int anew()", "int post()", "int road(int,int)", "int length(int,int)", "int turn(int)",
-    "int take(int)", "int melt(int)", "int of(int,int)", "int undo()", "int sheet(int,int,int)",
-    "int put(int,int,int)", "int copy(int,int,int,int,int)", "int lay(int)", "int group(int)",
-    "int set(int,int)", "int excess(int)", "int off()", "int whole()", "int find(int)",
-    "int sized(int)", "int least()", "int rounds(int,boolean)", "int flowPoly(int)",
-    "int colourPoly(int)", "long worth(boolean,int)", "int bridges()", "int even(int)",
-    "int fours()", "int twice()", "int walked(boolean)", "int trees()", "int count(int)",
-    "int faces()", "int face(int,boolean)", "int keep(int)", "int bring(int)", "int add(int)",
-    "int times(int)", "int as(int,int)", "int told(int)"
-  };
   private static final String[] RULED_OUT = {
     "\\bimport\\b", "\\bpackage\\b", "\\bthrow\\b", "\\bthrows\\b", "\\btry\\b", "\\bcatch\\b",
     "\\bfinally\\b", "\\bsynchronized\\b", "\\bassert\\b", "->", "::", "\\bstatic\\s*\\{",
@@ -39,6 +28,7 @@ public final class FaceTest {
   private static final int MOST_CLASSES = 12;
   private static final int MOST_FIELDS = 20;
   private static final int MOST_PARAMETERS = 7;
+  private static final int METHODS_PROMISED = 40;
 
   private static int wrong = 0;
 
@@ -57,7 +47,26 @@ public final class FaceTest {
     return text.append(")").toString();
   }
 
-  private static void face() {
+  /** The methods that the document's face has, with their types alone. */
+  private static TreeSet<String> promisedFace() throws IOException {
+    String document = Files.readString(Path.of("../shared/DOC.md"));
+    Matcher block = Pattern.compile("(?s)```java\npublic final class RoundFlows \\{\n(.*?)\n\\}\n```")
+        .matcher(document);
+    due(block.find(), "the document shows no face");
+    TreeSet<String> face = new TreeSet<>();
+    for (String line : block.group(1).split("\n")) {
+      Matcher head = Pattern.compile("    public (int|long) (\\w+)\\((.*)\\);").matcher(line);
+      if (head.matches()) {
+        String types = head.group(3).replaceAll("(int|boolean) \\w+", "$1").replace(" ", "");
+        face.add(head.group(1) + " " + head.group(2) + "(" + types + ")");
+      } else {
+        due(line.equals("    public RoundFlows();"), "a line of the face that was not understood: " + line);
+      }
+    }
+    return face;
+  }
+
+  private static void face() throws IOException {
     Class<?> type = RoundFlows.class;
     due(Modifier.isPublic(type.getModifiers()) && Modifier.isFinal(type.getModifiers()), "not public final");
     TreeSet<String> shown = new TreeSet<>();
@@ -71,7 +80,9 @@ public final class FaceTest {
         due(Modifier.isPrivate(m.getModifiers()), "not private: " + m);
       }
     }
-    due(shown.equals(new TreeSet<>(Arrays.asList(FACE))), "another face: " + shown);
+    TreeSet<String> promised = promisedFace();
+    due(promised.size() == METHODS_PROMISED, "methods of the document's face: " + promised.size());
+    due(shown.equals(promised), "another face: " + shown + ", due is " + promised);
     for (Field f : type.getDeclaredFields()) {
       due(Modifier.isPrivate(f.getModifiers()), "not private: " + f);
     }
@@ -132,7 +143,7 @@ public final class FaceTest {
         due(end > 0 && end <= MOST_LINES_A_METHOD, "a long method at " + (i + 1));
       }
     }
-    due(methods > FACE.length, "methods were not seen: " + methods);
+    due(methods > METHODS_PROMISED, "methods were not seen: " + methods);
   }
 
   /** The document says what stands ahead of which calls in the interface. */
