@@ -1,12 +1,14 @@
 import java.util.ArrayDeque;
 import java.util.ArrayList;
 import java.util.Arrays;
+import java.util.HashMap;
 import java.util.List;
+import java.util.Map;
 import java.util.Random;
 
 /** Long runs of calls, each answer against that of a plain second model that tries everything. */
 public final class ModelTest {
-  private static final int RUNS = 400;
+  private static final int RUNS = 800;
   private static final int CALLS = 512;
 
   private static final String[] NAMES = {
@@ -18,7 +20,6 @@ public final class ModelTest {
 
   private static int wrong = 0;
   private static int asked = 0;
-  private static int passedOver = 0;
 
   private final Random random;
   private final Model model = new Model();
@@ -33,8 +34,7 @@ public final class ModelTest {
     for (int run = 0; run < RUNS && wrong == 0; run++) {
       new ModelTest(run).go(run % 4);
     }
-    System.out.println(asked + " answers asked, " + wrong + " not as due, " + passedOver
-        + " passed over as too long for the model");
+    System.out.println(asked + " answers asked, " + wrong + " not as due");
     if (wrong != 0) {
       System.exit(1);
     }
@@ -185,14 +185,7 @@ public final class ModelTest {
     if (told.size() >= CALLS) {
       return;
     }
-    long want;
-    try {
-      want = model.call(name, a, b, c, d, e);
-    } catch (Model.TooLong tooLong) {
-      passedOver++;
-      told.add("// " + text);
-      return;
-    }
+    long want = model.call(name, a, b, c, d, e);
     told.add(text + " " + want);
     long got = realCall(name, a, b, c, d, e);
     asked++;
@@ -255,10 +248,6 @@ public final class ModelTest {
 
 /** The document again, with lists and by trying all: roads are rows of from, to, length, number. */
 final class Model {
-  static final class TooLong extends RuntimeException {
-    private static final long serialVersionUID = 1L;
-  }
-
   static final class State {
     int posts = 0;
     int group = 0;
@@ -283,7 +272,8 @@ final class Model {
   private static final int NONE = -1000006;
   private static final int LONG = -1000007;
   private static final int OFF = -1000008;
-  private static final int BUDGET = 2000000;
+  /** A surplus is at most 50 either way, so that posts' surpluses can stand in one number. */
+  private static final long[] PLACES = {1L, 1000L, 1000000L, 1000000000L, 1000000000000L, 1000000000000000L};
 
   State now = new State();
   private final ArrayDeque<State> past = new ArrayDeque<>();
@@ -293,12 +283,10 @@ final class Model {
   private final int[] sheetBits = new int[4];
   private int findings = 0;
   private boolean isFinding = false;
-  private int spent = 0;
 
   long call(String name, int a, int b, int c, int d, int e) {
     State before = now.copied();
     isFinding = false;
-    spent = 0;
     int told = findings;
     long answer = answer(name, a, b, c, d, e);
     if (isFinding) {
@@ -583,7 +571,7 @@ final class Model {
           return found(BEYOND);
         }
         int[] values = new int[now.roads.size()];
-        if (nowheres(a, values, 0, true) == 0) {
+        if (nowheres(a, values, true) == 0) {
           return found(NONE);
         }
         for (int i = 0; i < values.length; i++) {
@@ -596,7 +584,7 @@ final class Model {
         if (a < 2 || a > 4) {
           return found(BEYOND);
         }
-        return genus() > 6 ? found(LONG) : nowheres(a, new int[now.roads.size()], 0, false);
+        return genus() > 6 ? found(LONG) : nowheres(a, new int[now.roads.size()], false);
       case "least":
         if (now.roads.isEmpty()) {
           return 1;
@@ -605,7 +593,7 @@ final class Model {
           return found(NONE);
         }
         for (int k = 2; ; k++) {
-          if (nowheres(k, new int[now.roads.size()], 0, true) != 0) {
+          if (nowheres(k, new int[now.roads.size()], true) != 0) {
             return k;
           }
         }
@@ -614,36 +602,43 @@ final class Model {
     }
   }
 
-  /** Tries all numbers on all roads; a post is looked at once its last road has a number. */
-  private int nowheres(int k, int[] values, int road, boolean first) {
-    spent++;
-    if (spent > BUDGET) {
-      throw new TooLong();
-    }
-    for (int p = 0; p < now.posts; p++) {
-      int sum = 0;
-      boolean open = false;
-      for (int i = 0; i < values.length; i++) {
-        int[] r = now.roads.get(i);
-        open |= i >= road && (r[0] == p || r[1] == p);
-        sum += i < road ? (r[1] == p ? values[i] : 0) - (r[0] == p ? values[i] : 0) : 0;
-      }
-      if (!open && sum != 0) {
-        return 0;
-      }
-    }
-    if (road == values.length) {
-      return 1;
+  /** Tries all numbers on the first half of the roads, and looks up those behind that level them. */
+  private int nowheres(int k, int[] values, boolean first) {
+    int cut = values.length / 2;
+    Map<Long, Integer> many = new HashMap<>();
+    Map<Long, Integer> lowest = new HashMap<>();
+    for (int n = 0; n < choices(k, values.length - cut); n++) {
+      long surplus = tryNumbers(k, values, cut, values.length, n);
+      many.merge(surplus, 1, Integer::sum);
+      lowest.putIfAbsent(surplus, n);
     }
     int ways = 0;
-    for (int i = 0; i < 2 * (k - 1); i++) {
-      values[road] = i % 2 == 0 ? i / 2 + 1 : -(i / 2 + 1);
-      ways += nowheres(k, values, road + 1, first);
+    for (int n = 0; n < choices(k, cut); n++) {
+      long surplus = tryNumbers(k, values, 0, cut, n);
+      ways += many.getOrDefault(-surplus, 0);
       if (first && ways != 0) {
-        return ways;
+        tryNumbers(k, values, cut, values.length, lowest.get(-surplus));
+        return 1;
       }
     }
     return ways;
+  }
+
+  private static int choices(int k, int roads) {
+    return roads == 0 ? 1 : (2 * k - 2) * choices(k, roads - 1);
+  }
+
+  /** Puts the n-th numbers on some roads, in the order of the document: the surpluses they make. */
+  private long tryNumbers(int k, int[] values, int from, int to, int n) {
+    long surplus = 0;
+    int left = n;
+    for (int i = to - 1; i >= from; i--) {
+      int nth = left % (2 * k - 2);
+      left /= 2 * k - 2;
+      values[i] = nth % 2 == 0 ? nth / 2 + 1 : -(nth / 2 + 1);
+      surplus += values[i] * (PLACES[now.roads.get(i)[1]] - PLACES[now.roads.get(i)[0]]);
+    }
+    return surplus;
   }
 
   private int rounds(int i, boolean number) {
